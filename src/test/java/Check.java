@@ -1,0 +1,64 @@
+/** What the tests of the project share: due answers, due exceptions, and the exit code at the end. */
+final class Check {
+    interface Call {
+        void make();
+    }
+
+    private static int made = 0;
+    private static int wrong = 0;
+
+    static void same(String what, long got, long due) {
+        made++;
+        if (got != due) {
+            say(what + " answered " + got + ", due is " + due);
+        }
+    }
+
+    static void same(String what, boolean got, boolean due) {
+        same(what, got ? 1 : 0, due ? 1 : 0);
+    }
+
+    static void same(String what, double got, double due) {
+        made++;
+        if (got != due) {
+            say(what + " answered " + got + ", due is " + due);
+        }
+    }
+
+    static void same(String what, String got, String due) {
+        made++;
+        if (!got.equals(due)) {
+            say(what + " answered " + got + ", due is " + due);
+        }
+    }
+
+    /** The call throws exactly this exception, and the whole state of the object stays as it was. */
+    static void refuses(String what, MicrostoreWorks works, Class<? extends RuntimeException> due, Call call) {
+        String before = Look.at(works);
+        same(what, nameOfThrown(call), due.getSimpleName());
+        same(what + " changes nothing", Look.at(works), before);
+    }
+
+    static String nameOfThrown(Call call) {
+        try {
+            call.make();
+            return "nothing";
+        } catch (RuntimeException thrown) {
+            return thrown.getClass().getSimpleName();
+        }
+    }
+
+    static void finish() {
+        System.out.println(made + " checks, " + wrong + " wrong");
+        if (wrong != 0) {
+            System.exit(1);
+        }
+    }
+
+    private static void say(String text) {
+        wrong++;
+        if (wrong <= 40) {
+            System.out.println(text);
+        }
+    }
+}

@@ -7,6 +7,7 @@ public final class CountsTest {
     public static void main(String[] args) {
         promise31To33EndedAndWrong();
         promise32EachVisiblePartIsJudged();
+        promise32EachCellIsJudged();
         promise34Fights();
         promise35Faults();
         promise36Taken();
@@ -79,6 +80,50 @@ public final class CountsTest {
         Check.same("I", wrongOf(64, 0, 0, 'g', 0), 1);
         Check.same("I as it was", wrongOf(0, 0, 0, 'g', 0), 0);
         Check.same("P becomes K, I becomes 1", wrongOf(0, 0, 0, 'k', 0), 1);
+    }
+
+    /** An instruction that must do nothing and writes three cells, as they were or otherwise. */
+    private static void promise32EachCellIsJudged() {
+        for (int cell = 0; cell < 64; cell++) {
+            int second = (cell + 20) % 64;
+            int third = (cell + 40) % 64;
+            MicrostoreWorks works = House.make();
+            works.start((cell + 1) % 64, 0, false);
+            writeBytes(works, cell, 7, cell, 0, third, 0);
+            works.run(1);
+            Check.same("as it was again", works.wrong(), 0);
+            writeBytes(works, second, 0, cell, 7, third, 0);
+            works.step(8);
+            Check.same("written", works.cell(cell), 7);
+            works.reset();
+            Check.same("taken back", works.cell(cell), 0);
+            works.run(1);
+            Check.same("written again", works.cell(cell), 7);
+            Check.same("wrong", works.wrong(), 1);
+            works.start((cell + 1) % 64, 0, false);
+            works.run(1);
+            Check.same("it is what was there", works.wrong(), 1);
+            writeBytes(works, cell, 3, second, 4, third, 5);
+            works.step(7);
+            Check.same("written otherwise", works.cell(cell) + works.cell(second), 7);
+            works.reset();
+            Check.same("taken back to what was kept", works.cell(cell), 7);
+            Check.same("and the other one", works.cell(second), 0);
+            works.run(1);
+            Check.same("wrong again", works.wrong(), 2);
+            Check.same("all three", works.cell(cell) * 100 + works.cell(second) * 10 + works.cell(third), 345);
+        }
+    }
+
+    /** As the operation 0 of the set 0, words that write three cells, one behind another. */
+    private static void writeBytes(MicrostoreWorks works, int... cellsAndBytes) {
+        for (int i = 0; i < 6; i += 2) {
+            works.write(50 + i, 64, 0, House.TO_A, 0, 'n', 51 + i, 0);
+            works.setConstant(50 + i, cellsAndBytes[i]);
+            works.write(51 + i, 64, 0, House.TO_D, House.WRITE, i == 4 ? 'e' : 'n', 52 + i, 0);
+            works.setConstant(51 + i, cellsAndBytes[i + 1]);
+        }
+        works.setEntry(0, 0, 50);
     }
 
     private static void promise34Fights() {
@@ -258,6 +303,10 @@ public final class CountsTest {
         works.step(2);
         works.reset();
         Check.same("reset", works.isSound(), true);
+        works.write(0, 0, 0, 0, 0, 'c', 0, 0);
+        works.step(7);
+        Check.same("with four returns", works.returns(), 4);
+        Check.same("sound with four returns", works.isSound(), true);
         MicrostoreWorks late = new MicrostoreWorks();
         late.write(0, 0, 0, 0, 0, 'n', 0, 1);
         late.step(2);

@@ -154,6 +154,9 @@ public final class DefinitionsTest {
         more.setConstant(3, 33);
         more.run(1);
         Check.same("written as it was, is right", more.wrong(), 0);
+        more.setCell(1, 3);
+        more.run(1);
+        Check.same("written otherwise is wrong", more.wrong(), 1);
     }
 
     private static void promise30SetsAndPrefixes() {

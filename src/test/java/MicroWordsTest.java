@@ -11,6 +11,7 @@ public final class MicroWordsTest {
         promise2Write();
         promise2WriteRefuses();
         promise3Patch();
+        promise3PatchCopiesAll();
         promise4SetConstant();
         promise5Reason();
         promise6Reserve();
@@ -96,6 +97,7 @@ public final class MicroWordsTest {
         Check.refuses("number first", works, ARGUMENT, () -> works.write(0, 0, 0, 8, 1, 'n', 80, 0));
         Check.refuses("forbidden d", works, UNSUPPORTED, () -> works.write(0, 0, 0, 8, 1, 'n', 0, 0));
         Check.refuses("forbidden r", works, UNSUPPORTED, () -> works.write(0, 0, 0, 96, 0, 'n', 0, 0));
+        Check.refuses("all listen", works, UNSUPPORTED, () -> works.write(0, 0, 0, 255, 0, 'n', 0, 0));
         Check.refuses("forbidden m", works, UNSUPPORTED, () -> works.write(0, 0, 0, 0, 2, 'r', 0, 0));
         Check.refuses("forbidden t", works, UNSUPPORTED, () -> works.write(0, 0, 0, 0, 0, 'e', 0, 8));
         Check.refuses("forbidden k", works, UNSUPPORTED, () -> works.write(0, 64, 0, 0, 0, 'o', 0, 0));
@@ -126,6 +128,22 @@ public final class MicroWordsTest {
         Check.refuses("no word below", works, NO_SUCH, () -> works.patch(64, 9, 0));
     }
 
+    /** A word that drives U, takes 1 from it, tells flags, is heard by U and A, reads, and tests Z and C. */
+    private static void promise3PatchCopiesAll() {
+        MicrostoreWorks works = new MicrostoreWorks();
+        works.setCell(63, 90);
+        works.write(0, 0, 0, 0, 0, 'n', 64, 0);
+        works.write(5, 2, 6, 2 + 4, 1, 'o', 8, 1 + House.TEST_Z + House.TEST_C);
+        works.patch(64, 5, 16);
+        works.step(2);
+        Check.same("drive", works.drivers(), 2);
+        Check.same("combination", works.part('U'), 255);
+        Check.same("listen", works.part('A'), 63);
+        Check.same("memory", works.part('D'), 90);
+        Check.same("order, tests, flags and the other number", works.next(), 18);
+        Check.same("flags", works.found(), 1);
+    }
+
     private static void promise4SetConstant() {
         MicrostoreWorks works = new MicrostoreWorks();
         works.write(0, 64, 0, 2, 0, 'n', 0, 0);
@@ -151,6 +169,7 @@ public final class MicroWordsTest {
         Check.same("d ahead of all", works.reason(64, 104, 1, 'r', 7), 'd');
         Check.same("r", works.reason(0, 96, 0, 'n', 0), 'r');
         Check.same("one register", works.reason(0, 32, 0, 'n', 0), '-');
+        Check.same("all listen", works.reason(0, 255, 0, 'n', 0), 'r');
         Check.same("r ahead of m", works.reason(64, 96, 1, 'r', 7), 'r');
         Check.same("m for c", works.reason(0, 0, 1, 'c', 0), 'm');
         Check.same("m for r", works.reason(0, 0, 2, 'r', 0), 'm');

@@ -16,6 +16,7 @@ public final class PartsTest {
         promise23Memory();
         promise24And25NextAndReturns();
         promise26And27BusAndDrivers();
+        promise26Fights();
         Check.finish();
     }
 
@@ -320,6 +321,32 @@ public final class PartsTest {
         works.write(10, 0, 0, 0, 0, 'p', 0, 0);
         works.step(2);
         Check.same("a prefix does not", works.returns(), 1);
+    }
+
+    /** Each part lacks one bit that all others have, so that each one that drives is seen on the bus. */
+    private static void promise26Fights() {
+        int[] bytes = {0xFE, 0xFD, 0xFB, 0x37, 0xEF, 0xDF, 0xBF};
+        int[] listeners = {1, 2, 8, 16, 32, 64};
+        for (int drive = 0; drive < 128; drive++) {
+            MicrostoreWorks works = new MicrostoreWorks();
+            works.write(7, 64, 0, 128, 0, 'n', 8, 0);
+            works.setConstant(7, 0x0E);
+            works.write(0, 0, 0, 0, 0, 'n', 7, 0);
+            for (int i = 0; i < 6; i++) {
+                works.write(8 + i, 64, 0, listeners[i], 0, 'n', 9 + i, 0);
+                works.setConstant(8 + i, bytes[i]);
+            }
+            works.write(14, drive, 0, 0, 0, 'e', 0, 0);
+            works.setConstant(14, bytes[6]);
+            int due = drive == 0 ? 0 : 255;
+            for (int i = 0; i < 7; i++) {
+                due &= (drive >> i & 1) == 1 ? bytes[i] : 255;
+            }
+            Check.same("to the end", works.step(9), 9);
+            Check.same("bus of " + drive, works.bus(), due);
+            Check.same("drivers", works.drivers(), drive);
+            Check.same("fights", works.fights(), Integer.bitCount(drive) > 1 ? 1 : 0);
+        }
     }
 
     private static void promise26And27BusAndDrivers() {

@@ -6,6 +6,16 @@ final class Check {
 
     private static int made = 0;
     private static int wrong = 0;
+    private static String about = "";
+
+    /** What the checks are for from here on, to be said ahead of each one that is wrong. */
+    static void about(String text) {
+        about = text;
+    }
+
+    static int made() {
+        return made;
+    }
 
     static void same(String what, long got, long due) {
         made++;
@@ -58,7 +68,7 @@ final class Check {
     private static void say(String text) {
         wrong++;
         if (wrong <= 40) {
-            System.out.println(text);
+            System.out.println(about + text);
         }
     }
 }

@@ -99,7 +99,8 @@ public final class DefinitionsTest {
     private static void promise30Jumps() {
         for (int flags = 0; flags < 4; flags++) {
             for (int operation = 9; operation <= 11; operation++) {
-                boolean jumps = operation == 11 || operation == 9 && flags / 2 == 1 || operation == 10 && flags % 2 == 1;
+                boolean jumps = operation == 11 || operation == 9 && flags / 2 == 1
+                        || operation == 10 && flags % 2 == 1;
                 MicrostoreWorks works = withFlags(flags);
                 int place = works.part('P');
                 works.setCell(place, House.code(operation, 0, 0));

@@ -380,6 +380,13 @@ final class BoundariesOfDefinitions {
         same.run(1);
         Check.same("a cell written as it was", same.wrong(), 0);
         checkNotWritten();
+        MicrostoreWorks all = new MicrostoreWorks();
+        all.write(0, House.T, 5, House.TO_T + House.TO_A, House.WRITE, 'n', 0, 0);
+        all.step(100);
+        all.write(0, House.P, 5, House.TO_P, 0, 'e', 0, 0);
+        all.step(1);
+        Check.same("it ends", all.ended(), 1);
+        Check.same("all cells written as they were", all.wrong(), 0);
         MicrostoreWorks undefined = prefixed(5, 64, 0);
         undefined.write(0, House.P, 0, 0, 0, 'e', 0, 0);
         undefined.run(1);
@@ -509,7 +516,6 @@ final class BoundariesOfDefinitions {
     private static void exceptionsChangeNothing() {
         Sentence.terms("A method that throws an exception changes nothing.");
         MicrostoreWorks works = Scene.begun();
-        String before = Look.at(works);
         int refused = 0;
         Check.Call[] calls = {
             () -> works.write(0, 0, 0, 0, 0, 'e', 0, 16), () -> works.patch(64, 63, 0), () -> works.setConstant(63, 0),
@@ -524,7 +530,7 @@ final class BoundariesOfDefinitions {
             refused += Check.nameOfThrown(call).equals("nothing") ? 0 : 1;
         }
         Check.same("all are refused", refused, calls.length);
-        Check.same("as before", Look.at(works), before);
+        Check.same("as before", Look.at(works), Look.at(Scene.begun()));
         MicrostoreWorks used = Scene.begun();
         Check.nameOfThrown(() -> used.write(0, 0, 0, 0, 0, 'e', 0, 16));
         Check.nameOfThrown(() -> used.setWait(10));

@@ -325,6 +325,7 @@ final class BoundariesOfInstructions {
         many.step(30);
         Check.same("ended", many.ended(), 130);
         checkNextOneIsTakenBack("behind many that wrote", many);
+        checkNextOneIsTakenBack("the first one", new MicrostoreWorks());
     }
 
     private static void checkNextOneIsTakenBack(String what, MicrostoreWorks works) {
@@ -349,6 +350,14 @@ final class BoundariesOfInstructions {
         works.reset();
         Check.same("written a hundred times", works.cell(0), 9);
         Check.same("and another one behind it", works.cell(1), 8);
+        works.write(0, 0, 0, House.TO_A, House.WRITE, 'e', 0, 0);
+        works.step(100);
+        Bench.put(works, 0, 1, House.TO_A);
+        works.step(2);
+        Check.same("written", works.cell(1), 0);
+        works.reset();
+        Check.same("written by a hundred that ended", works.cell(0), 0);
+        Check.same("and another one by the next one", works.cell(1), 8);
     }
 
     private static void takenBackExchangeAndReturns() {

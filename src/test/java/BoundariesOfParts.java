@@ -263,12 +263,12 @@ final class BoundariesOfParts {
         }
     }
 
-    /** Five ways, each one longer and setting one part less than the one ahead of it, come to the same 71 words. */
+    /** Five ways, each one longer and setting one part less than the one ahead of it, come to the same 70 words. */
     private static MicrostoreWorks fiveWays() {
         MicrostoreWorks works = new MicrostoreWorks();
         for (int way = 0; way < 4; way++) {
             works.write(way, 0, 0, 0, 0, 'c', 5 + way, 0);
-            works.write(5 + way, 0, 0, 15 >> way << way, 0, 'n', 9, 0);
+            works.write(5 + way, 0, 0, 15 >> way << way, 0, 'n', 10, 0);
         }
         works.write(4, 0, 0, 0, 0, 'n', 9, 0);
         for (int address = 9; address < 64; address++) {

@@ -42,11 +42,9 @@ final class Check {
         }
     }
 
-    /** The call throws exactly this exception, and the whole state of the object stays as it was. */
-    static void refuses(String what, MicrostoreWorks works, Class<? extends RuntimeException> due, Call call) {
-        String before = Look.at(works);
+    /** The call throws exactly this exception. Refusal.check tells, too, whether it changes nothing. */
+    static void refuses(String what, Class<? extends RuntimeException> due, Call call) {
         same(what, nameOfThrown(call), due.getSimpleName());
-        same(what + " changes nothing", Look.at(works), before);
     }
 
     static String nameOfThrown(Call call) {

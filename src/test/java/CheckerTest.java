@@ -6,7 +6,8 @@ public final class CheckerTest {
         promise28WhatIsRead();
         promise28WhatIsSet();
         promise28Ways();
-        promise28Refuses();
+        promise28And29Refuse();
+        promise28And29ChangeNothing();
         promise29Reached();
         promise29Catches();
         Check.finish();
@@ -95,17 +96,19 @@ public final class CheckerTest {
         Check.same("not for the address itself", works.unset(54), 0);
     }
 
-    private static void promise28Refuses() {
-        MicrostoreWorks works = House.make();
-        Check.same("no word", works.unset(79), 0);
-        Check.refuses("unset -1", works, INDEX, () -> works.unset(-1));
-        Check.refuses("unset 80", works, INDEX, () -> works.unset(80));
-        Check.refuses("reached -1", works, INDEX, () -> works.reached(-1));
-        Check.refuses("reached 80", works, INDEX, () -> works.reached(80));
-        String before = Look.at(works);
+    private static void promise28And29Refuse() {
+        Refusal.check("unset -1", Scene::begun, INDEX, works -> works.unset(-1));
+        Refusal.check("unset 80", Scene::begun, INDEX, works -> works.unset(80));
+        Refusal.check("reached -1", Scene::begun, INDEX, works -> works.reached(-1));
+        Refusal.check("reached 80", Scene::begun, INDEX, works -> works.reached(80));
+    }
+
+    private static void promise28And29ChangeNothing() {
+        MicrostoreWorks works = Scene.begun();
+        Check.same("no word", works.unset(78), 0);
         works.unset(0);
         works.reached(0);
-        Check.same("asking changes nothing", Look.at(works), before);
+        Check.same("asking changes nothing", Look.at(works), Look.at(Scene.begun()));
     }
 
     private static void promise29Reached() {

@@ -14,6 +14,7 @@ public final class CountsTest {
         promise37Found();
         promise38Cycles();
         promise39CyclesOf();
+        promise39CyclesOfRefuses();
         promise40And41Shares();
         promise42IsSound();
         Check.finish();
@@ -21,13 +22,13 @@ public final class CountsTest {
 
     private static void promise31To33EndedAndWrong() {
         MicrostoreWorks works = House.make();
-        Check.refuses("none was wrong", works, NO_SUCH, works::firstWrong);
+        Refusal.check("none was wrong", House::make, NO_SUCH, MicrostoreWorks::firstWrong);
         Check.same("none ended", works.ended(), 0);
         works.step(3);
         Check.same("not ended yet", works.ended(), 0);
         works.step(1);
         Check.same("one", works.ended(), 1);
-        Check.refuses("none was wrong", works, NO_SUCH, works::firstWrong);
+        Check.refuses("none was wrong", NO_SUCH, works::firstWrong);
         works.start(17, 0, false);
         works.setCell(17, House.code(5, 0, 0));
         works.write(11, House.FIRST, 6, House.TO_FIRST, 0, 'e', 0, 1);
@@ -44,6 +45,8 @@ public final class CountsTest {
         Check.same("the first one stays", works.firstWrong(), 17);
         works.reset();
         Check.same("what is taken back has not ended", works.ended(), 4);
+        Check.same("one of the scene's, too", Scene.idle().wrong(), 1);
+        Check.same("it began at the jump", Scene.idle().firstWrong(), 21);
         MicrostoreWorks zero = new MicrostoreWorks();
         zero.write(0, 0, 0, 0, 0, 'e', 0, 0);
         zero.run(1);
@@ -255,10 +258,6 @@ public final class CountsTest {
         works.run(1);
         Check.same("X as it was when it ended", works.cyclesOf(1, 1), 2 + 8);
         Check.same("not by the prefix", works.cyclesOf(1, 15), 0);
-        Check.refuses("set -1", works, INDEX, () -> works.cyclesOf(-1, 0));
-        Check.refuses("set 2", works, INDEX, () -> works.cyclesOf(2, 0));
-        Check.refuses("operation -1", works, INDEX, () -> works.cyclesOf(1, -1));
-        Check.refuses("operation 16", works, INDEX, () -> works.cyclesOf(0, 16));
         MicrostoreWorks last = House.make();
         last.write(3, 64, 0, House.TO_X, 0, 'e', 0, 0);
         last.setConstant(3, 0x9F);
@@ -266,13 +265,20 @@ public final class CountsTest {
         Check.same("X heard by the last word", last.cyclesOf(0, 9), 4);
     }
 
+    private static void promise39CyclesOfRefuses() {
+        Refusal.check("set -1", Scene::idle, INDEX, works -> works.cyclesOf(-1, 0));
+        Refusal.check("set 2", Scene::idle, INDEX, works -> works.cyclesOf(2, 0));
+        Refusal.check("operation -1", Scene::idle, INDEX, works -> works.cyclesOf(1, -1));
+        Refusal.check("operation 16", Scene::idle, INDEX, works -> works.cyclesOf(0, 16));
+    }
+
     private static void promise40And41Shares() {
         MicrostoreWorks works = House.make();
-        Check.refuses("no cycles", works, ARITHMETIC, works::usedShare);
-        Check.refuses("none ended", works, ARITHMETIC, works::meanCycles);
+        Refusal.check("no cycles", House::make, ARITHMETIC, MicrostoreWorks::usedShare);
+        Refusal.check("none ended", House::make, ARITHMETIC, MicrostoreWorks::meanCycles);
         works.step(3);
         Check.same("none used", works.usedShare(), 0.0f);
-        Check.refuses("none ended yet", works, ARITHMETIC, works::meanCycles);
+        Check.refuses("none ended yet", ARITHMETIC, works::meanCycles);
         works.step(1);
         Check.same("all used", works.usedShare(), 1.0f);
         Check.same("mean", works.meanCycles(), 4.0);

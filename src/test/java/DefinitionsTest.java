@@ -228,17 +228,23 @@ public final class DefinitionsTest {
         Check.same("and the gate", works.defined('I'), 1);
     }
 
-    private static void promise30Refuses() {
+    /** All cells hold the prefix. */
+    private static MicrostoreWorks prefixes() {
         MicrostoreWorks works = at(0, 1);
         for (int i = 0; i < 64; i++) {
             works.setCell(i, 0xF0);
         }
-        Check.refuses("undefined", works, UNSUPPORTED, () -> works.defined('P'));
-        Check.refuses("undefined register", works, UNSUPPORTED, () -> works.defined('3'));
+        return works;
+    }
+
+    private static void promise30Refuses() {
+        Refusal.check("undefined", DefinitionsTest::prefixes, UNSUPPORTED, works -> works.defined('P'));
+        Refusal.check("undefined register", DefinitionsTest::prefixes, UNSUPPORTED, works -> works.defined('3'));
         for (char part : "TUADXE4/p \0".toCharArray()) {
-            Check.refuses("no part " + part, works, ARGUMENT, () -> works.defined(part));
+            Refusal.check("no part " + part, DefinitionsTest::prefixes, ARGUMENT, works -> works.defined(part));
         }
-        Check.refuses("no part 304", works, ARGUMENT, () -> works.defined((char) (256 + '0')));
+        Refusal.check("no part 304", Scene::begun, ARGUMENT, works -> works.defined((char) (256 + '0')));
+        MicrostoreWorks works = prefixes();
         works.start(0, 0, false);
         Check.same("defined in the set 0", works.defined('I'), 0);
     }

@@ -11,13 +11,19 @@ public final class MicroWordsTest {
         promise2Write();
         promise2WriteRefuses();
         promise3Patch();
+        promise3PatchRefuses();
         promise3PatchCopiesAll();
         promise4SetConstant();
+        promise4SetConstantRefuses();
         promise5Reason();
+        promise5ReasonRefuses();
         promise6Reserve();
+        promise6ReserveRefuses();
         promise7Free();
         promise8SetEntry();
+        promise8SetEntryRefuses();
         promise9SetCatch();
+        promise9SetCatchRefuses();
         promise9CatchesAreFollowedOnce();
         Check.finish();
     }
@@ -46,7 +52,7 @@ public final class MicroWordsTest {
         for (int i = 0; i < 80; i++) {
             Check.same("words", works.reached(i), 0);
             int address = i;
-            Check.refuses("a catch to drop", works, NO_SUCH, () -> works.setCatch(address, -1));
+            Check.refuses("a catch to drop", NO_SUCH, () -> works.setCatch(address, -1));
         }
         Check.same("wait", works.setWait(0), 0);
         Check.same("vector", works.setVector(0), 48);
@@ -74,33 +80,33 @@ public final class MicroWordsTest {
     }
 
     private static void promise2WriteRefuses() {
-        MicrostoreWorks works = House.make();
-        works.step(2);
-        Check.refuses("address -1", works, INDEX, () -> works.write(-1, 128, 8, 0, 0, 'x', 80, 16));
-        Check.refuses("address 64", works, INDEX, () -> works.write(64, 0, 0, 0, 0, 'e', 0, 0));
-        Check.refuses("address far out", works, INDEX, () -> works.write(Integer.MIN_VALUE, 0, 0, 0, 0, 'e', 0, 0));
-        Check.refuses("drive -1", works, ARGUMENT, () -> works.write(0, -1, 0, 0, 0, 'e', 0, 0));
-        Check.refuses("drive 128", works, ARGUMENT, () -> works.write(0, 128, 0, 0, 0, 'e', 0, 0));
-        Check.refuses("combine -1", works, ARGUMENT, () -> works.write(0, 0, -1, 0, 0, 'e', 0, 0));
-        Check.refuses("combine 8", works, ARGUMENT, () -> works.write(0, 0, 8, 0, 0, 'e', 0, 0));
-        Check.refuses("listen -1", works, ARGUMENT, () -> works.write(0, 0, 0, -1, 0, 'e', 0, 0));
-        Check.refuses("listen 256", works, ARGUMENT, () -> works.write(0, 0, 0, 256, 0, 'e', 0, 0));
-        Check.refuses("memory -1", works, ARGUMENT, () -> works.write(0, 0, 0, 0, -1, 'e', 0, 0));
-        Check.refuses("memory 3", works, ARGUMENT, () -> works.write(0, 0, 0, 0, 3, 'e', 0, 0));
-        Check.refuses("order x", works, ARGUMENT, () -> works.write(0, 0, 0, 0, 0, 'x', 0, 0));
-        Check.refuses("order 0", works, ARGUMENT, () -> works.write(0, 0, 0, 0, 0, (char) 0, 0, 0));
-        Check.refuses("order 366", works, ARGUMENT, () -> works.write(0, 0, 0, 0, 0, (char) (256 + 'n'), 0, 0));
-        Check.refuses("number -1", works, ARGUMENT, () -> works.write(0, 0, 0, 0, 0, 'n', -1, 0));
-        Check.refuses("number 80", works, ARGUMENT, () -> works.write(0, 0, 0, 0, 0, 'n', 80, 0));
-        Check.refuses("more -1", works, ARGUMENT, () -> works.write(0, 0, 0, 0, 0, 'o', 0, -1));
-        Check.refuses("more 16", works, ARGUMENT, () -> works.write(0, 0, 0, 0, 0, 'o', 0, 16));
-        Check.refuses("number first", works, ARGUMENT, () -> works.write(0, 0, 0, 8, 1, 'n', 80, 0));
-        Check.refuses("forbidden d", works, UNSUPPORTED, () -> works.write(0, 0, 0, 8, 1, 'n', 0, 0));
-        Check.refuses("forbidden r", works, UNSUPPORTED, () -> works.write(0, 0, 0, 96, 0, 'n', 0, 0));
-        Check.refuses("all listen", works, UNSUPPORTED, () -> works.write(0, 0, 0, 255, 0, 'n', 0, 0));
-        Check.refuses("forbidden m", works, UNSUPPORTED, () -> works.write(0, 0, 0, 0, 2, 'r', 0, 0));
-        Check.refuses("forbidden t", works, UNSUPPORTED, () -> works.write(0, 0, 0, 0, 0, 'e', 0, 8));
-        Check.refuses("forbidden k", works, UNSUPPORTED, () -> works.write(0, 64, 0, 0, 0, 'o', 0, 0));
+        Refusal.check("address -1", Scene::begun, INDEX, works -> works.write(-1, 128, 8, 0, 0, 'x', 80, 16));
+        Refusal.check("address 64", Scene::begun, INDEX, works -> works.write(64, 0, 0, 0, 0, 'e', 0, 0));
+        Refusal.check("address far out", Scene::begun, INDEX,
+            works -> works.write(Integer.MIN_VALUE, 0, 0, 0, 0, 'e', 0, 0));
+        Refusal.check("drive -1", Scene::begun, ARGUMENT, works -> works.write(0, -1, 0, 0, 0, 'e', 0, 0));
+        Refusal.check("drive 128", Scene::begun, ARGUMENT, works -> works.write(0, 128, 0, 0, 0, 'e', 0, 0));
+        Refusal.check("combine -1", Scene::begun, ARGUMENT, works -> works.write(0, 0, -1, 0, 0, 'e', 0, 0));
+        Refusal.check("combine 8", Scene::begun, ARGUMENT, works -> works.write(0, 0, 8, 0, 0, 'e', 0, 0));
+        Refusal.check("listen -1", Scene::begun, ARGUMENT, works -> works.write(0, 0, 0, -1, 0, 'e', 0, 0));
+        Refusal.check("listen 256", Scene::begun, ARGUMENT, works -> works.write(0, 0, 0, 256, 0, 'e', 0, 0));
+        Refusal.check("memory -1", Scene::begun, ARGUMENT, works -> works.write(0, 0, 0, 0, -1, 'e', 0, 0));
+        Refusal.check("memory 3", Scene::begun, ARGUMENT, works -> works.write(0, 0, 0, 0, 3, 'e', 0, 0));
+        Refusal.check("order x", Scene::begun, ARGUMENT, works -> works.write(0, 0, 0, 0, 0, 'x', 0, 0));
+        Refusal.check("order 0", Scene::begun, ARGUMENT, works -> works.write(0, 0, 0, 0, 0, (char) 0, 0, 0));
+        Refusal.check("order 366", Scene::begun, ARGUMENT,
+            works -> works.write(0, 0, 0, 0, 0, (char) (256 + 'n'), 0, 0));
+        Refusal.check("number -1", Scene::begun, ARGUMENT, works -> works.write(0, 0, 0, 0, 0, 'n', -1, 0));
+        Refusal.check("number 80", Scene::begun, ARGUMENT, works -> works.write(0, 0, 0, 0, 0, 'n', 80, 0));
+        Refusal.check("more -1", Scene::begun, ARGUMENT, works -> works.write(0, 0, 0, 0, 0, 'o', 0, -1));
+        Refusal.check("more 16", Scene::begun, ARGUMENT, works -> works.write(0, 0, 0, 0, 0, 'o', 0, 16));
+        Refusal.check("number first", Scene::begun, ARGUMENT, works -> works.write(0, 0, 0, 8, 1, 'n', 80, 0));
+        Refusal.check("forbidden d", Scene::begun, UNSUPPORTED, works -> works.write(0, 0, 0, 8, 1, 'n', 0, 0));
+        Refusal.check("forbidden r", Scene::begun, UNSUPPORTED, works -> works.write(0, 0, 0, 96, 0, 'n', 0, 0));
+        Refusal.check("all listen", Scene::begun, UNSUPPORTED, works -> works.write(0, 0, 0, 255, 0, 'n', 0, 0));
+        Refusal.check("forbidden m", Scene::begun, UNSUPPORTED, works -> works.write(0, 0, 0, 0, 2, 'r', 0, 0));
+        Refusal.check("forbidden t", Scene::begun, UNSUPPORTED, works -> works.write(0, 0, 0, 0, 0, 'e', 0, 8));
+        Refusal.check("forbidden k", Scene::idle, UNSUPPORTED, works -> works.write(0, 64, 0, 0, 0, 'o', 0, 0));
     }
 
     private static void promise3Patch() {
@@ -117,15 +123,18 @@ public final class MicroWordsTest {
         works.step(2);
         Check.same("the copy does what the word does", works.part('T'), 99);
         Check.same("the copy has its own number", works.next(), 3);
-        Check.refuses("63", works, INDEX, () -> works.patch(63, 5, 80));
-        Check.refuses("80", works, INDEX, () -> works.patch(80, 5, 0));
-        Check.refuses("far below", works, INDEX, () -> works.patch(Integer.MIN_VALUE, 5, 0));
-        Check.refuses("from -1", works, INDEX, () -> works.patch(64, -1, 80));
-        Check.refuses("from 80", works, INDEX, () -> works.patch(64, 80, 0));
-        Check.refuses("number -1", works, ARGUMENT, () -> works.patch(64, 9, -1));
-        Check.refuses("number 80", works, ARGUMENT, () -> works.patch(64, 5, 80));
-        Check.refuses("no word", works, NO_SUCH, () -> works.patch(70, 70, 0));
-        Check.refuses("no word below", works, NO_SUCH, () -> works.patch(64, 9, 0));
+    }
+
+    private static void promise3PatchRefuses() {
+        Refusal.check("63", Scene::idle, INDEX, works -> works.patch(63, 5, 80));
+        Refusal.check("80", Scene::idle, INDEX, works -> works.patch(80, 5, 0));
+        Refusal.check("far below", Scene::idle, INDEX, works -> works.patch(Integer.MIN_VALUE, 5, 0));
+        Refusal.check("from -1", Scene::idle, INDEX, works -> works.patch(64, -1, 80));
+        Refusal.check("from 80", Scene::idle, INDEX, works -> works.patch(64, 80, 0));
+        Refusal.check("number -1", Scene::idle, ARGUMENT, works -> works.patch(64, 50, -1));
+        Refusal.check("number 80", Scene::idle, ARGUMENT, works -> works.patch(64, 5, 80));
+        Refusal.check("no word", Scene::idle, NO_SUCH, works -> works.patch(70, 70, 0));
+        Refusal.check("no word below", Scene::idle, NO_SUCH, works -> works.patch(64, 50, 0));
     }
 
     /** A word that drives U, takes 1 from it, tells flags, is heard by U and A, reads, and tests Z and C. */
@@ -154,11 +163,14 @@ public final class MicroWordsTest {
         works.step(1);
         Check.same("it drives", works.bus(), 17);
         Check.same("and is heard", works.part('U'), 17);
-        Check.refuses("-1", works, INDEX, () -> works.setConstant(-1, 256));
-        Check.refuses("80", works, INDEX, () -> works.setConstant(80, 0));
-        Check.refuses("constant -1", works, ARGUMENT, () -> works.setConstant(1, -1));
-        Check.refuses("constant 256", works, ARGUMENT, () -> works.setConstant(0, 256));
-        Check.refuses("no word", works, NO_SUCH, () -> works.setConstant(1, 0));
+    }
+
+    private static void promise4SetConstantRefuses() {
+        Refusal.check("-1", Scene::idle, INDEX, works -> works.setConstant(-1, 256));
+        Refusal.check("80", Scene::idle, INDEX, works -> works.setConstant(80, 0));
+        Refusal.check("constant -1", Scene::idle, ARGUMENT, works -> works.setConstant(50, -1));
+        Refusal.check("constant 256", Scene::idle, ARGUMENT, works -> works.setConstant(0, 256));
+        Refusal.check("no word", Scene::idle, NO_SUCH, works -> works.setConstant(50, 0));
     }
 
     private static void promise5Reason() {
@@ -180,15 +192,18 @@ public final class MicroWordsTest {
             Check.same("constant for " + order, works.reason(64, 0, 0, order, 0), '-');
         }
         Check.same("k", works.reason(64, 0, 0, 'o', 0), 'k');
-        Check.refuses("drive -1", works, ARGUMENT, () -> works.reason(-1, 0, 0, 'n', 0));
-        Check.refuses("drive 128", works, ARGUMENT, () -> works.reason(128, 0, 0, 'n', 0));
-        Check.refuses("listen -1", works, ARGUMENT, () -> works.reason(0, -1, 0, 'n', 0));
-        Check.refuses("listen 256", works, ARGUMENT, () -> works.reason(0, 256, 0, 'n', 0));
-        Check.refuses("memory -1", works, ARGUMENT, () -> works.reason(0, 0, -1, 'n', 0));
-        Check.refuses("memory 3", works, ARGUMENT, () -> works.reason(0, 0, 3, 'n', 0));
-        Check.refuses("order", works, ARGUMENT, () -> works.reason(0, 0, 0, 'N', 0));
-        Check.refuses("tests -1", works, ARGUMENT, () -> works.reason(0, 0, 0, 'o', -1));
-        Check.refuses("tests 8", works, ARGUMENT, () -> works.reason(0, 0, 0, 'o', 8));
+    }
+
+    private static void promise5ReasonRefuses() {
+        Refusal.check("drive -1", Scene::idle, ARGUMENT, works -> works.reason(-1, 0, 0, 'n', 0));
+        Refusal.check("drive 128", Scene::idle, ARGUMENT, works -> works.reason(128, 0, 0, 'n', 0));
+        Refusal.check("listen -1", Scene::idle, ARGUMENT, works -> works.reason(0, -1, 0, 'n', 0));
+        Refusal.check("listen 256", Scene::idle, ARGUMENT, works -> works.reason(0, 256, 0, 'n', 0));
+        Refusal.check("memory -1", Scene::idle, ARGUMENT, works -> works.reason(0, 0, -1, 'n', 0));
+        Refusal.check("memory 3", Scene::idle, ARGUMENT, works -> works.reason(0, 0, 3, 'n', 0));
+        Refusal.check("order", Scene::idle, ARGUMENT, works -> works.reason(0, 0, 0, 'N', 0));
+        Refusal.check("tests -1", Scene::idle, ARGUMENT, works -> works.reason(0, 0, 0, 'o', -1));
+        Refusal.check("tests 8", Scene::idle, ARGUMENT, works -> works.reason(0, 0, 0, 'o', 8));
     }
 
     private static void promise6Reserve() {
@@ -206,16 +221,28 @@ public final class MicroWordsTest {
         for (int i = 0; i < 4; i++) {
             Check.same("8 more", works.reserve(8), 24 + 8 * i);
         }
-        Check.refuses("no 8", works, STATE, () -> works.reserve(8));
+        Check.refuses("no 8", STATE, () -> works.reserve(8));
         Check.same("4 of the gap", works.reserve(4), 12);
         Check.same("4 of the end", works.reserve(4), 56);
-        Check.refuses("no 4", works, STATE, () -> works.reserve(4));
+        Check.refuses("no 4", STATE, () -> works.reserve(4));
         Check.same("2 of the end", works.reserve(2), 60);
-        Check.refuses("no 2", works, STATE, () -> works.reserve(2));
+        Check.refuses("no 2", STATE, () -> works.reserve(2));
         Check.same("the last", works.reserve(1), 63);
-        Check.refuses("no 1", works, STATE, () -> works.reserve(1));
+        Check.refuses("no 1", STATE, () -> works.reserve(1));
+    }
+
+    private static MicrostoreWorks allReserved() {
+        MicrostoreWorks works = Scene.idle();
+        for (int left = works.free(); left > 0; left--) {
+            works.reserve(1);
+        }
+        return works;
+    }
+
+    private static void promise6ReserveRefuses() {
+        Refusal.check("none is left", MicroWordsTest::allReserved, STATE, works -> works.reserve(1));
         for (int words : new int[] {Integer.MIN_VALUE, -1, 0, 3, 5, 6, 7, 9, 16}) {
-            Check.refuses("no such number", works, ARGUMENT, () -> works.reserve(words));
+            Refusal.check("no such number", Scene::idle, ARGUMENT, works -> works.reserve(words));
         }
     }
 
@@ -242,12 +269,6 @@ public final class MicroWordsTest {
         Check.same("each its own", works.setEntry(1, 0, 7), -1);
         Check.same("each its own", works.setEntry(0, 15, 8), -1);
         Check.same("and kept", works.setEntry(1, 15, 6), 6);
-        Check.refuses("set -1", works, INDEX, () -> works.setEntry(-1, 0, 80));
-        Check.refuses("set 2", works, INDEX, () -> works.setEntry(2, 0, 0));
-        Check.refuses("operation -1", works, INDEX, () -> works.setEntry(0, -1, 0));
-        Check.refuses("operation 16", works, INDEX, () -> works.setEntry(0, 16, -2));
-        Check.refuses("address -2", works, ARGUMENT, () -> works.setEntry(0, 0, -2));
-        Check.refuses("address 80", works, ARGUMENT, () -> works.setEntry(0, 0, 80));
         works.write(0, 0, 0, 0, 0, 'd', 0, 0);
         works.step(1);
         Check.same("'d' goes there", works.next(), 5);
@@ -266,6 +287,15 @@ public final class MicroWordsTest {
         Check.same("by X as it is now", works.next(), 6);
     }
 
+    private static void promise8SetEntryRefuses() {
+        Refusal.check("set -1", Scene::idle, INDEX, works -> works.setEntry(-1, 0, 80));
+        Refusal.check("set 2", Scene::idle, INDEX, works -> works.setEntry(2, 0, 0));
+        Refusal.check("operation -1", Scene::idle, INDEX, works -> works.setEntry(0, -1, 0));
+        Refusal.check("operation 16", Scene::idle, INDEX, works -> works.setEntry(0, 16, -2));
+        Refusal.check("address -2", Scene::idle, ARGUMENT, works -> works.setEntry(0, 0, -2));
+        Refusal.check("address 80", Scene::idle, ARGUMENT, works -> works.setEntry(0, 0, 80));
+    }
+
     private static void promise9SetCatch() {
         MicrostoreWorks works = new MicrostoreWorks();
         Check.same("first", works.setCatch(0, 64), 1);
@@ -273,18 +303,32 @@ public final class MicroWordsTest {
         Check.same("second", works.setCatch(79, 64), 2);
         Check.same("third", works.setCatch(70, 70), 3);
         Check.same("fourth", works.setCatch(5, 71), 4);
-        Check.refuses("fifth", works, STATE, () -> works.setCatch(6, 71));
-        Check.refuses("none to drop ahead of too many", works, NO_SUCH, () -> works.setCatch(6, -1));
         Check.same("in place of one of four", works.setCatch(5, 72), 4);
         Check.same("dropped", works.setCatch(0, -1), 3);
-        Check.refuses("dropped twice", works, NO_SUCH, () -> works.setCatch(0, -1));
         Check.same("again a fourth", works.setCatch(6, 71), 4);
-        Check.refuses("-1", works, INDEX, () -> works.setCatch(-1, 63));
-        Check.refuses("80", works, INDEX, () -> works.setCatch(80, 64));
-        Check.refuses("to 63", works, ARGUMENT, () -> works.setCatch(7, 63));
-        Check.refuses("to 80", works, ARGUMENT, () -> works.setCatch(7, 80));
-        Check.refuses("to 0", works, ARGUMENT, () -> works.setCatch(7, 0));
-        Check.refuses("to -2", works, ARGUMENT, () -> works.setCatch(7, -2));
+    }
+
+    /** As many as there may be. */
+    private static MicrostoreWorks fourCatches() {
+        MicrostoreWorks works = new MicrostoreWorks();
+        works.setCatch(0, 64);
+        works.setCatch(79, 64);
+        works.setCatch(70, 70);
+        works.setCatch(5, 71);
+        return works;
+    }
+
+    private static void promise9SetCatchRefuses() {
+        Refusal.check("fifth", MicroWordsTest::fourCatches, STATE, works -> works.setCatch(6, 71));
+        Refusal.check("none to drop ahead of too many", MicroWordsTest::fourCatches, NO_SUCH,
+            works -> works.setCatch(6, -1));
+        Refusal.check("none to drop", Scene::idle, NO_SUCH, works -> works.setCatch(0, -1));
+        Refusal.check("-1", MicroWordsTest::fourCatches, INDEX, works -> works.setCatch(-1, 63));
+        Refusal.check("80", MicroWordsTest::fourCatches, INDEX, works -> works.setCatch(80, 64));
+        Refusal.check("to 63", MicroWordsTest::fourCatches, ARGUMENT, works -> works.setCatch(7, 63));
+        Refusal.check("to 80", MicroWordsTest::fourCatches, ARGUMENT, works -> works.setCatch(7, 80));
+        Refusal.check("to 0", MicroWordsTest::fourCatches, ARGUMENT, works -> works.setCatch(7, 0));
+        Refusal.check("to -2", MicroWordsTest::fourCatches, ARGUMENT, works -> works.setCatch(7, -2));
     }
 
     private static void promise9CatchesAreFollowedOnce() {

@@ -194,7 +194,7 @@ public final class ModelTest {
 
     private void goOn() {
         int kind = pick(10);
-        if (kind < 2 || works.state() == 'l' && once(2)) {
+        if (kind < 2 || model.state == 'l' && once(2)) {
             same(15, () -> works.reset(), () -> model.reset());
         } else if (kind < 7) {
             int steps = once(20) ? near(101) : 1 + pick(6);

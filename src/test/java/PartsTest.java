@@ -6,7 +6,9 @@ public final class PartsTest {
     public static void main(String[] args) {
         promise20State();
         promise21And22CellAndRegister();
+        promise21And22Refuse();
         promise23Part();
+        promise23PartRefuses();
         promise23Listeners();
         promise23Exchange();
         promise23Combinations();
@@ -49,10 +51,13 @@ public final class PartsTest {
         Check.same("register", works.register(3), 100);
         works.setPage(3, false);
         Check.same("cell of an absent page", works.cell(63), 200);
-        Check.refuses("cell -1", works, INDEX, () -> works.cell(-1));
-        Check.refuses("cell 64", works, INDEX, () -> works.cell(64));
-        Check.refuses("register -1", works, INDEX, () -> works.register(-1));
-        Check.refuses("register 4", works, INDEX, () -> works.register(4));
+    }
+
+    private static void promise21And22Refuse() {
+        Refusal.check("cell -1", Scene::idle, INDEX, works -> works.cell(-1));
+        Refusal.check("cell 64", Scene::idle, INDEX, works -> works.cell(64));
+        Refusal.check("register -1", Scene::idle, INDEX, works -> works.register(-1));
+        Refusal.check("register 4", Scene::idle, INDEX, works -> works.register(4));
     }
 
     private static void promise23Part() {
@@ -61,10 +66,13 @@ public final class PartsTest {
         Check.same("P", works.part('P'), 33);
         Check.same("S", works.part('S'), 1);
         Check.same("I", works.part('I'), 1);
+    }
+
+    private static void promise23PartRefuses() {
         for (char part : "BFMNRW0123pz \0".toCharArray()) {
-            Check.refuses("no part " + part, works, ARGUMENT, () -> works.part(part));
+            Refusal.check("no part " + part, Scene::begun, ARGUMENT, works -> works.part(part));
         }
-        Check.refuses("no part 336", works, ARGUMENT, () -> works.part((char) (256 + 'P')));
+        Refusal.check("no part 336", Scene::idle, ARGUMENT, works -> works.part((char) (256 + 'P')));
     }
 
     private static void promise23Listeners() {

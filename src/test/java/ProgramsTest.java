@@ -6,18 +6,26 @@ public final class ProgramsTest {
 
     public static void main(String[] args) {
         promise10SetCell();
+        promise10SetCellRefuses();
         promise11SetRegister();
+        promise11SetRegisterRefuses();
         promise12Start();
+        promise12StartRefuses();
         promise13SetPage();
+        promise13SetPageRefuses();
         promise13FaultsOfWriting();
         promise14SetWait();
+        promise14SetWaitRefuses();
         promise15SetVector();
+        promise15SetVectorRefuses();
         promise16Interrupt();
         promise16GivingWay();
         promise16TestOfAnInterrupt();
         promise17Reset();
         promise18Step();
+        promise18StepRefuses();
         promise19Run();
+        promise19RunRefuses();
         Check.finish();
     }
 
@@ -39,14 +47,7 @@ public final class ProgramsTest {
         works.setPage(1, false);
         Check.same("in an absent page", works.setCell(16, 7), 0);
         Check.same("held", works.cell(16), 7);
-        Check.refuses("-1", works, INDEX, () -> works.setCell(-1, 256));
-        Check.refuses("64", works, INDEX, () -> works.setCell(64, 0));
-        Check.refuses("value -1", works, ARGUMENT, () -> works.setCell(0, -1));
-        Check.refuses("value 256", works, ARGUMENT, () -> works.setCell(0, 256));
         works.step(1);
-        Check.refuses("begun", works, STATE, () -> works.setCell(0, 1));
-        Check.refuses("index ahead of begun", works, INDEX, () -> works.setCell(64, 1));
-        Check.refuses("value ahead of begun", works, ARGUMENT, () -> works.setCell(0, 256));
         works.reset();
         Check.same("not begun again", works.setCell(0, 81), 80);
         works.step(2);
@@ -56,26 +57,39 @@ public final class ProgramsTest {
         Check.same("it is what the instruction is judged by", works.wrong(), 0);
     }
 
+    private static void promise10SetCellRefuses() {
+        Refusal.check("-1", Scene::idle, INDEX, works -> works.setCell(-1, 256));
+        Refusal.check("64", Scene::idle, INDEX, works -> works.setCell(64, 0));
+        Refusal.check("value -1", Scene::idle, ARGUMENT, works -> works.setCell(0, -1));
+        Refusal.check("value 256", Scene::idle, ARGUMENT, works -> works.setCell(0, 256));
+        Refusal.check("begun", Scene::begun, STATE, works -> works.setCell(0, 1));
+        Refusal.check("index ahead of begun", Scene::begun, INDEX, works -> works.setCell(64, 1));
+        Refusal.check("value ahead of begun", Scene::begun, ARGUMENT, works -> works.setCell(0, 256));
+    }
+
     private static void promise11SetRegister() {
         MicrostoreWorks works = House.make();
         House.load(works, 0, House.code(5, 3, 0));
         Check.same("before", works.setRegister(3, 255), 0);
         Check.same("again", works.setRegister(3, 8), 255);
         Check.same("first", works.setRegister(0, 1), 0);
-        Check.refuses("-1", works, INDEX, () -> works.setRegister(-1, 256));
-        Check.refuses("4", works, INDEX, () -> works.setRegister(4, 0));
-        Check.refuses("value -1", works, ARGUMENT, () -> works.setRegister(0, -1));
-        Check.refuses("value 256", works, ARGUMENT, () -> works.setRegister(3, 256));
         works.step(3);
-        Check.refuses("begun", works, STATE, () -> works.setRegister(0, 1));
-        Check.refuses("index ahead of begun", works, INDEX, () -> works.setRegister(4, 1));
-        Check.refuses("value ahead of begun", works, ARGUMENT, () -> works.setRegister(0, 256));
         works.reset();
         Check.same("what was set ahead of it is kept", works.register(3), 8);
         Check.same("the definition begins with it", works.defined('3'), 9);
         works.run(1);
         Check.same("done", works.register(3), 9);
         Check.same("right", works.wrong(), 0);
+    }
+
+    private static void promise11SetRegisterRefuses() {
+        Refusal.check("-1", Scene::idle, INDEX, works -> works.setRegister(-1, 256));
+        Refusal.check("4", Scene::idle, INDEX, works -> works.setRegister(4, 0));
+        Refusal.check("value -1", Scene::idle, ARGUMENT, works -> works.setRegister(0, -1));
+        Refusal.check("value 256", Scene::idle, ARGUMENT, works -> works.setRegister(3, 256));
+        Refusal.check("begun", Scene::begun, STATE, works -> works.setRegister(0, 1));
+        Refusal.check("index ahead of begun", Scene::begun, INDEX, works -> works.setRegister(4, 1));
+        Refusal.check("value ahead of begun", Scene::begun, ARGUMENT, works -> works.setRegister(0, 256));
     }
 
     private static void promise12Start() {
@@ -89,18 +103,21 @@ public final class ProgramsTest {
         Check.same("again", works.start(5, 0, false), 63);
         Check.same("S again", works.part('S'), 0);
         Check.same("I again", works.part('I'), 0);
-        Check.refuses("place -1", works, ARGUMENT, () -> works.start(-1, 0, true));
-        Check.refuses("place 64", works, ARGUMENT, () -> works.start(64, 0, true));
-        Check.refuses("set -1", works, ARGUMENT, () -> works.start(0, -1, true));
-        Check.refuses("set 2", works, ARGUMENT, () -> works.start(0, 2, true));
         works.step(3);
-        Check.refuses("begun", works, STATE, () -> works.start(0, 0, false));
-        Check.refuses("number ahead of begun", works, ARGUMENT, () -> works.start(64, 0, false));
         works.reset();
         Check.same("kept as set", works.part('P'), 5);
         works.run(1);
         Check.same("it begins there", works.part('P'), 6);
         Check.same("right", works.wrong(), 0);
+    }
+
+    private static void promise12StartRefuses() {
+        Refusal.check("place -1", Scene::idle, ARGUMENT, works -> works.start(-1, 0, true));
+        Refusal.check("place 64", Scene::idle, ARGUMENT, works -> works.start(64, 0, true));
+        Refusal.check("set -1", Scene::idle, ARGUMENT, works -> works.start(0, -1, true));
+        Refusal.check("set 2", Scene::idle, ARGUMENT, works -> works.start(0, 2, true));
+        Refusal.check("begun", Scene::begun, STATE, works -> works.start(0, 0, false));
+        Refusal.check("number ahead of begun", Scene::begun, ARGUMENT, works -> works.start(64, 0, false));
     }
 
     private static void promise13SetPage() {
@@ -109,8 +126,6 @@ public final class ProgramsTest {
         Check.same("still absent", works.setPage(2, false), false);
         Check.same("present", works.setPage(2, true), false);
         Check.same("still present", works.setPage(2, true), true);
-        Check.refuses("-1", works, INDEX, () -> works.setPage(-1, false));
-        Check.refuses("4", works, INDEX, () -> works.setPage(4, true));
         for (int page = 0; page < 4; page++) {
             checkPage(page);
         }
@@ -126,6 +141,11 @@ public final class ProgramsTest {
         Check.same("it runs since the page was made present", works.state(), 'r');
         Check.same("and faults again", works.step(5), 1);
         Check.same("faults", works.faults(), 2);
+    }
+
+    private static void promise13SetPageRefuses() {
+        Refusal.check("-1", Scene::idle, INDEX, works -> works.setPage(-1, false));
+        Refusal.check("4", Scene::idle, INDEX, works -> works.setPage(4, true));
     }
 
     private static void checkPage(int page) {
@@ -186,8 +206,6 @@ public final class ProgramsTest {
         MicrostoreWorks works = House.make();
         Check.same("before", works.setWait(9), 0);
         Check.same("again", works.setWait(2), 9);
-        Check.refuses("-1", works, ARGUMENT, () -> works.setWait(-1));
-        Check.refuses("10", works, ARGUMENT, () -> works.setWait(10));
         House.load(works, 0, House.code(8, 0, 1));
         works.step(1);
         Check.same("a word that reads", works.cycles(), 3);
@@ -198,17 +216,25 @@ public final class ProgramsTest {
         Check.same("a word that writes", works.cycles(), 4 + 1 + 1 + 6);
     }
 
+    private static void promise14SetWaitRefuses() {
+        Refusal.check("-1", Scene::idle, ARGUMENT, works -> works.setWait(-1));
+        Refusal.check("10", Scene::idle, ARGUMENT, works -> works.setWait(10));
+    }
+
     private static void promise15SetVector() {
         MicrostoreWorks works = House.make();
         Check.same("before", works.setVector(63), 48);
         Check.same("again", works.setVector(0), 63);
         Check.same("again", works.setVector(7), 0);
-        Check.refuses("-1", works, ARGUMENT, () -> works.setVector(-1));
-        Check.refuses("64", works, ARGUMENT, () -> works.setVector(64));
         works.start(20, 0, true);
         works.interrupt();
         works.run(1);
         Check.same("it leads there", works.part('P'), 7);
+    }
+
+    private static void promise15SetVectorRefuses() {
+        Refusal.check("-1", Scene::idle, ARGUMENT, works -> works.setVector(-1));
+        Refusal.check("64", Scene::idle, ARGUMENT, works -> works.setVector(64));
     }
 
     private static void promise16Interrupt() {
@@ -355,9 +381,6 @@ public final class ProgramsTest {
         Check.same("next", works.next(), 1);
         Check.same("a hundred", works.step(100), 100);
         Check.same("all were done", works.cycles(), 101);
-        Check.refuses("0", works, ARGUMENT, () -> works.step(0));
-        Check.refuses("-1", works, ARGUMENT, () -> works.step(-1));
-        Check.refuses("101", works, ARGUMENT, () -> works.step(101));
         works.write(1, 0, 0, 0, 0, 'n', 2, 0);
         Check.same("exactly to the lost way", works.step(1), 1);
         Check.same("not lost yet", works.state(), 'r');
@@ -370,15 +393,18 @@ public final class ProgramsTest {
         Check.same("two ended", house.ended(), 2);
     }
 
+    private static void promise18StepRefuses() {
+        Refusal.check("0", Scene::idle, ARGUMENT, works -> works.step(0));
+        Refusal.check("-1", Scene::idle, ARGUMENT, works -> works.step(-1));
+        Refusal.check("101", Scene::idle, ARGUMENT, works -> works.step(101));
+    }
+
     private static void promise19Run() {
         MicrostoreWorks works = House.make();
         Check.same("one", works.run(1), 1);
         Check.same("its steps alone", works.cycles(), 4);
         Check.same("twenty", works.run(20), 20);
         Check.same("their steps alone", works.cycles(), 84);
-        Check.refuses("0", works, ARGUMENT, () -> works.run(0));
-        Check.refuses("-5", works, ARGUMENT, () -> works.run(-5));
-        Check.refuses("21", works, ARGUMENT, () -> works.run(21));
         works.step(2);
         Check.same("what has begun ends too", works.run(1), 1);
         Check.same("cycles", works.cycles(), 88);
@@ -392,5 +418,11 @@ public final class ProgramsTest {
         Check.same("until it is lost", works.run(20), 1);
         Check.same("lost", works.state(), 'l');
         Check.same("at the beginning of what has no entry", works.part('P'), 24);
+    }
+
+    private static void promise19RunRefuses() {
+        Refusal.check("0", Scene::idle, ARGUMENT, works -> works.run(0));
+        Refusal.check("-5", Scene::idle, ARGUMENT, works -> works.run(-5));
+        Refusal.check("21", Scene::idle, ARGUMENT, works -> works.run(21));
     }
 }

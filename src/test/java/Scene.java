@@ -14,7 +14,7 @@ final class Scene {
         works.setRegister(1, 100);
         House.load(works, 20, House.code(2, 0, 1), House.code(11, 0, 0), 40);
         works.start(20, 0, true);
-        works.write(29, House.P, 5, House.TO_T, 0, 'n', 30, 0);
+        works.write(30, House.D, 5, House.TO_P, 0, 'e', 0, 0);
         works.run(2);
         works.interrupt();
         works.setPage(2, false);
